@@ -1,7 +1,7 @@
 import java.util.Arrays;
 import java.util.NoSuchElementException;
 
-/** A pawnshop for spare minutes. The promises are in the document; numbers in comments are theirs. */
+/** A pawnshop for spare minutes. */
 public final class MinutePawnshop {
     private static final int NONE = -1;
     private static final int WEEKDAYS = 7;
@@ -895,6 +895,9 @@ public final class MinutePawnshop {
 
     /** Finds what a customer can redeem. Its rows are made once and used by every call. */
     private static final class Redemption {
+        /** Far above all debts together. */
+        private static final int UNREACHED = 1000000000;
+
         private final int[] debts = new int[MAX_ITEMS];
         private final int[] minutes = new int[MAX_ITEMS];
         private int count = 0;
@@ -961,7 +964,7 @@ public final class MinutePawnshop {
             for (int i = 0; i < count; i++) {
                 int before = highest;
                 highest += minutes[i];
-                Arrays.fill(leastCoins, before + 1, highest + 1, Integer.MAX_VALUE);
+                Arrays.fill(leastCoins, before + 1, highest + 1, UNREACHED);
                 addToTable(minutes[i], debts[i], highest);
             }
             return highest;
@@ -971,7 +974,7 @@ public final class MinutePawnshop {
         private void addToTable(int added, int debt, int highest) {
             for (int sum = highest; sum >= added; sum--) {
                 int without = leastCoins[sum - added];
-                if (without != Integer.MAX_VALUE) {
+                if (without != UNREACHED) {
                     leastCoins[sum] = Math.min(leastCoins[sum], without + debt);
                 }
             }
@@ -1017,7 +1020,9 @@ public final class MinutePawnshop {
             for (int bidder = 0; bidder < BIDDERS; bidder++) {
                 if (offers[index][bidder] > 0 && (bought & 1 << bidder) == 0) {
                     int sum = offers[index][bidder] + bestFrom[index + 1][bought | 1 << bidder];
-                    best = Math.max(best, sum);
+                    if (sum > best) {
+                        best = sum;
+                    }
                 }
             }
             return best;
