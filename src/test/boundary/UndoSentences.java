@@ -28,6 +28,7 @@ final class UndoSentences extends Sentences {
         save();
         restoreRefused();
         restoreKeepsSnapshot();
+        restoreAfterUndo();
         restoreForgetsUndos();
     }
 
@@ -306,6 +307,20 @@ final class UndoSentences extends Sentences {
                 t.sees(full);
                 t.refuses(STATE, "pledge", 0, 1, 1);
             }
+        });
+    }
+
+    private void restoreAfterUndo() {
+        test(53, "Restores the snapshot, which is kept.", t -> {
+            t.call("pledge", 0, 10, 9);
+            t.call("passDays", 3);
+            t.call("save");
+            String saved = t.view();
+            t.is(1, "undo");
+            t.is(0, "undo");
+            t.is(3, "restore");
+            t.sees(saved);
+            t.refuses(STATE, "undo");
         });
     }
 
